@@ -32,6 +32,7 @@ public final class HostsTest {
         promise11OperationOnceMore();
         promise12Protect();
         promise13Transfer();
+        promise13Frame();
         promise13Pages();
         promise13Held();
         promise14Crash();
@@ -40,6 +41,9 @@ public final class HostsTest {
         promise17Memory();
         promise18Block();
         promise19Out();
+        manyOutputs();
+        manyOperations();
+        manyEntries();
         CHECK.end();
     }
 
@@ -260,6 +264,12 @@ public final class HostsTest {
         CHECK.due("goes on", x.run(0, 3), 3);
         x.tick();
         CHECK.due("stalls at DISK, not at FRAME", x.run(0, 100), 0);
+
+        // MEMORY's last word is looked at like any other.
+        asm = new Asm().devices().jal(0, 1016).at(1020).sw(0, 1, Asm.CONSOLE);
+        x = paired(asm, 2, 1);
+        x.tick();
+        CHECK.due("stalls at the last word", x.run(0, 100), 2);
 
         // A store of a half there is a TRAP, and so is an interrupt: neither stalls.
         asm = new Asm().devices().store(1, 0, 1, Asm.CONSOLE).jal(0, -4);
@@ -734,6 +744,25 @@ public final class HostsTest {
         CHECK.due("8 of a BACKUP", x.host(1, 8), 0);
     }
 
+    private static void promise13Frame() {
+        Asm asm = new Asm().devices();
+        for (int device : new int[] {Asm.COMPARE, Asm.BLOCK, Asm.ADDRESS, Asm.LENGTH, Asm.FRAME}) {
+            asm.addi(5, 0, 7 * device).sw(5, 1, device);
+        }
+        asm.addi(5, 0, 0);
+        for (int device : new int[] {Asm.COMPARE, Asm.BLOCK, Asm.ADDRESS, Asm.LENGTH, Asm.FRAME}) {
+            asm.lw(5 + device / 4, 1, device);
+        }
+        ReplayHosts x = asm.booted(2, 4, 4);
+        x.run(0, 12);
+        pair(x, 1);
+        x.suspect(1);
+        x.run(1, 5);
+        for (int device : new int[] {Asm.COMPARE, Asm.BLOCK, Asm.ADDRESS, Asm.LENGTH, Asm.FRAME}) {
+            CHECK.due("device " + device + " came", x.host(1, 32 + 5 + device / 4), 7 * device);
+        }
+    }
+
     private static void promise13Pages() {
         // Stores to pages 1 and 2 once it runs; receives a packet over pages 2 and 3; a block is read over 1 and 2.
         Asm asm = new Asm().devices().sw(1, 0, 0x104).store(0, 1, 0, 0x2FF).addi(2, 0, 0x2F0).sw(2, 1, Asm.RECEIVE);
@@ -989,5 +1018,65 @@ public final class HostsTest {
         CHECK.due("none such", x.out(-1), -1);
         CHECK.due("none such", x.out(Integer.MIN_VALUE), -1);
         CHECK.due("none such", x.out(Integer.MAX_VALUE), -1);
+    }
+
+    /** Outputs are kept in places that are used again: many rounds of 32, the most that may be kept. */
+    private static void manyOutputs() {
+        ReplayHosts x = paired(counting(), 2, 32);
+        int left = 0;
+        for (int round = 0; round < 4; round++) {
+            x.run(0, 2000);
+            CHECK.due("32 are kept", x.host(0, 5), 32);
+            for (int i = 0; i < 31; i++) {
+                CHECK.yes("deliver", x.deliver());
+                CHECK.yes("ack", x.ack());
+                CHECK.due("in order", x.out(left), left + 1);
+                left++;
+                CHECK.due("and no more", x.out(left), -1);
+            }
+            x.run(1, 2000);
+        }
+        x.run(0, 2000);
+        CHECK.due("the BACKUP keeps those that it doesn't know to have left", x.host(1, 5), 31);
+        CHECK.yes("suspect", x.suspect(0));
+        for (int i = 0; i < 156; i++) {
+            CHECK.due("in order", x.out(i), i + 1 & 255);
+        }
+        CHECK.due("32 left at once", x.out(156), -1);
+
+        x = paired(counting(), 2, 32);
+        x.run(0, 2000);
+        x.suspect(1);
+        CHECK.due("a room's outputs more", x.run(0, 2000), 96);
+        CHECK.due("the former one keeps them all", x.host(0, 5), 64);
+        CHECK.due("unacknowledged", x.host(0, 6), 32);
+        CHECK.due("outputs", x.host(0, 4), 64);
+    }
+
+    /** Operations wait in places that are used again. */
+    private static void manyOperations() {
+        Asm asm = new Asm().devices().addi(2, 0, 0x200).sw(2, 1, Asm.ADDRESS).addi(3, 0, 2).addi(5, 5, 1).sw(5, 0, 0x200);
+        asm.sw(3, 1, Asm.DISK).lw(4, 1, Asm.DISK).branch(1, 4, 3, -4).jal(0, -20);
+        ReplayHosts x = asm.booted(2, 4, 4);
+        for (int i = 1; i <= 160; i++) {
+            x.run(0, 12);
+            CHECK.yes("disk", x.disk());
+            CHECK.due("written", x.block(0, 0), i);
+            CHECK.no("no more", x.disk());
+        }
+    }
+
+    /** More entries may have come to a BACKUP than there is room for unacknowledged ones. */
+    private static void manyEntries() {
+        ReplayHosts x = paired(echo(), 2, 3);
+        for (int i = 0; i < 150; i++) {
+            CHECK.yes("tick", x.tick());
+            CHECK.yes("deliver", x.deliver());
+            CHECK.yes("ack", x.ack());
+        }
+        CHECK.due("all came", x.host(1, 7), 150);
+        x.run(1, 1);
+        CHECK.due("all are taken", x.host(1, 7), 0);
+        CHECK.due("all are taken", x.host(1, 9), 150);
     }
 }
