@@ -331,7 +331,6 @@ public final class ReplayHosts {
     }
 
     private void bring(Host h, Entry event) {
-        // The stamps come first: an event changes neither, but an entry tells what was ahead of it.
         event.count = h.guest.count;
         event.left = h.left();
         h.guest.receive(event);
