@@ -170,6 +170,7 @@ final class PlainModel {
                 while (h.state != State.LIVE && !h.came.isEmpty() && h.came.getFirst().count() == h.guest.count) {
                     Entry e = h.came.removeFirst();
                     event(h.guest, e.kind(), e.number(), e.bytes());
+                    h.guest.written.clear();
                     h.kept.removeIf(k -> k.number() <= e.left());
                     liveIfNoneLeft(h);
                 }
