@@ -1,9 +1,5 @@
 /** The guest machine: its steps, instructions, traps, control registers and devices. */
-public final class GuestTest {
-    private static final Check CHECK = new Check();
-    private static final int HANDLER = 0x200;
-    private static final int MIN = Integer.MIN_VALUE;
-
+public final class GuestTest extends GuestCheck {
     public static void main(String[] args) {
         numbers();
         registers();
@@ -24,57 +20,9 @@ public final class GuestTest {
         CHECK.end();
     }
 
-    private static long unsigned(int v) {
-        return v & 0xFFFFFFFFL;
-    }
-
-    private static void register(String what, ReplayHosts x, int k, int want) {
-        CHECK.due(what + ", register " + k, x.host(0, 32 + k), unsigned(want));
-    }
-
-    private static ReplayHosts ran(Asm asm) {
-        ReplayHosts x = asm.booted(2, 4, 4);
-        int steps = asm.words().length;
-        CHECK.due("steps", x.run(0, steps), steps);
-        return x;
-    }
-
-    /** One instruction behind registers 1 = p and 2 = q; what register 3 has then. */
-    private static void gives(String what, int p, int q, int w, int want) {
-        ReplayHosts x = ran(new Asm().li(1, p).li(2, q).word(w));
-        register(what + " of " + p + ", " + q, x, 3, want);
-        CHECK.due(what + " place", x.host(0, 2), 20);
-    }
-
-    /** One instruction behind registers 1 = p and 2 = q that TRAPS. */
-    private static void traps(String what, int p, int q, int w, int cause, int value) {
-        Asm asm = new Asm().li(1, p).li(2, q).li(3, 77).li(4, HANDLER).csr(1, 0, Asm.VECTOR, 4).csr(5, 0, Asm.STATUS, 8);
-        int place = asm.here();
-        ReplayHosts x = ran(asm.word(w));
-        CHECK.due(what + " cause", x.host(0, 69), unsigned(cause));
-        CHECK.due(what + " value", x.host(0, 70), unsigned(value));
-        CHECK.due(what + " back", x.host(0, 68), place);
-        CHECK.due(what + " place", x.host(0, 2), HANDLER);
-        CHECK.due(what + " status", x.host(0, 64), 128);
-        CHECK.due(what + " count", x.host(0, 1), place / 4 + 1);
-        register(what + " leaves", x, 3, 77);
-    }
-
-    private static int one(Asm asm) {
-        return asm.words()[0];
-    }
-
-    private static int imm(int f, int i) {
-        return one(new Asm().number(19, f, 3, 1, i));
-    }
-
-    private static int reg(int g, int f) {
-        return one(new Asm().register(g, f, 3, 1, 2));
-    }
-
     private static void numbers() {
         gives("add", 5, 0, imm(0, -7), -2);
-        gives("add goes round", Integer.MAX_VALUE, 0, imm(0, 1), MIN);
+        gives("add goes round", MAX, 0, imm(0, 1), MIN);
         gives("less", -1, 0, imm(2, 0), 1);
         gives("less", 0, 0, imm(2, -1), 0);
         gives("less unsigned", -1, 0, imm(3, 0), 0);
@@ -93,13 +41,13 @@ public final class GuestTest {
     private static void registers() {
         gives("add", 5, -7, reg(0, 0), -2);
         gives("subtract", 5, -7, reg(32, 0), 12);
-        gives("subtract goes round", MIN, 1, reg(32, 0), Integer.MAX_VALUE);
+        gives("subtract goes round", MIN, 1, reg(32, 0), MAX);
         gives("up", 1, 33, reg(0, 1), 2);
         gives("less", MIN, 1, reg(0, 2), 1);
         gives("less unsigned", MIN, 1, reg(0, 3), 0);
         gives("less unsigned", 1, MIN, reg(0, 3), 1);
         gives("exclusive or", 12, 10, reg(0, 4), 6);
-        gives("down", -2, 32 + 1, reg(0, 5), Integer.MAX_VALUE);
+        gives("down", -2, 32 + 1, reg(0, 5), MAX);
         gives("down signed", -2, 32 + 1, reg(32, 5), -1);
         gives("or", 12, 10, reg(0, 6), 14);
         gives("and", 12, 10, reg(0, 7), 8);
@@ -139,7 +87,7 @@ public final class GuestTest {
     }
 
     private static void branches() {
-        int[][] pairs = {{1, 1}, {1, 2}, {2, 1}, {-1, 1}, {1, -1}, {MIN, Integer.MAX_VALUE}};
+        int[][] pairs = {{1, 1}, {1, 2}, {2, 1}, {-1, 1}, {1, -1}, {MIN, MAX}};
         for (int[] pair : pairs) {
             int p = pair[0];
             int q = pair[1];
@@ -185,14 +133,6 @@ public final class GuestTest {
         CHECK.due("lowest byte first", x.memory(0, 0x104), 0x84);
         CHECK.due("highest byte last", x.memory(0, 0x107), 0x81);
         addressTraps();
-    }
-
-    private static int loadWord(int f, int i) {
-        return one(new Asm().load(f, 3, 1, i));
-    }
-
-    private static int storeWord(int f, int s) {
-        return one(new Asm().store(f, 2, 1, s));
     }
 
     private static void addressTraps() {

@@ -47,24 +47,6 @@ public final class HostsTest {
         CHECK.end();
     }
 
-    /** Reads keys for ever; a key that there is goes to the console. 3 steps a round without one, 4 with one. */
-    private static Asm echo() {
-        return new Asm().devices().lw(5, 1, Asm.KEY).branch(4, 5, 0, -4).sw(5, 1, Asm.CONSOLE).jal(0, -12);
-    }
-
-    /** Puts out 1, 2, 3, .. : three steps each, behind one. */
-    private static Asm counting() {
-        return new Asm().devices().addi(5, 5, 1).sw(5, 1, Asm.CONSOLE).jal(0, -8);
-    }
-
-    /** Has block 3 read to 0x200 (kind 1), or written from there (2), then goes round. */
-    private static Asm diskOnce(int kind) {
-        Asm asm = new Asm().devices().addi(5, 0, 3).sw(5, 1, Asm.BLOCK).addi(6, 0, 0x200).sw(6, 1, Asm.ADDRESS);
-        return asm.addi(7, 0, 0x5A).sw(7, 6, 0).addi(8, 0, kind).sw(8, 1, Asm.DISK).addi(9, 9, 1).jal(0, -4);
-    }
-
-    private static final int DISK_STEPS = 9;
-
     private static void state(String what, ReplayHosts x, int host, int want) {
         CHECK.due(what + ": host " + host + " is", x.host(host, 0), want);
     }
@@ -132,7 +114,7 @@ public final class HostsTest {
     }
 
     private static void promise3Boot() {
-        ReplayHosts x = echo().booted(2, 4, 1);
+        ReplayHosts x = Programs.echo().booted(2, 4, 1);
         state("booted", x, 0, LIVE);
         state("booted", x, 1, SPARE);
         CHECK.due("without a BACKUP", x.host(0, 14), 0);
@@ -170,7 +152,7 @@ public final class HostsTest {
     }
 
     private static void promise4RunOfABackup() {
-        ReplayHosts x = paired(echo(), 2, 8);
+        ReplayHosts x = paired(Programs.echo(), 2, 8);
         CHECK.due("no entry, no step", x.run(1, 9), 0);
         x.run(0, 4);
         x.key(65);
@@ -210,7 +192,7 @@ public final class HostsTest {
     }
 
     private static void promise4RunOfATakingOne() {
-        ReplayHosts x = paired(echo(), 2, 8);
+        ReplayHosts x = paired(Programs.echo(), 2, 8);
         x.run(0, 4);
         x.key(65);
         x.run(0, 10);
@@ -239,7 +221,7 @@ public final class HostsTest {
     }
 
     private static void promise4Stalled() {
-        ReplayHosts x = paired(counting(), 2, 2);
+        ReplayHosts x = paired(Programs.counting(), 2, 2);
         CHECK.due("two outputs, then STALLED", x.run(0, 100), 8);
         CHECK.due("STALLED", x.run(0, 100), 0);
         CHECK.due("at the store", x.host(0, 2), 8);
@@ -303,7 +285,7 @@ public final class HostsTest {
         }
         CHECK.no("16 wait", x.key(16));
         CHECK.due("16 wait", x.host(0, 12), 16);
-        x = paired(echo(), 2, 1);
+        x = paired(Programs.echo(), 2, 1);
         CHECK.yes("key", x.key(0x141));
         CHECK.no("no room", x.key(2));
         CHECK.due("one entry", x.host(0, 6), 1);
@@ -371,7 +353,7 @@ public final class HostsTest {
     private static void promise8Disk() {
         ReplayHosts x = new ReplayHosts(2, 4, 1);
         CHECK.no("none waits", x.disk());
-        x = diskOnce(2).booted(2, 4, 4);
+        x = Programs.diskOnce(2).booted(2, 4, 4);
         x.run(0, 50);
         CHECK.due("BUSY", x.host(0, 11), 1);
         CHECK.yes("done", x.disk());
@@ -379,7 +361,7 @@ public final class HostsTest {
         CHECK.due("DONE", x.host(0, 11), 2);
         CHECK.no("none waits", x.disk());
 
-        x = paired(diskOnce(2), 2, 4);
+        x = paired(Programs.diskOnce(2), 2, 4);
         x.run(0, 50);
         CHECK.no("kept: it doesn't wait there yet", x.disk());
         x.deliver();
@@ -411,7 +393,7 @@ public final class HostsTest {
     }
 
     private static void promise8DiskOfAFormerLife() {
-        ReplayHosts x = diskOnce(2).booted(2, 4, 4);
+        ReplayHosts x = Programs.diskOnce(2).booted(2, 4, 4);
         pair(x, 1);
         x.run(0, 50);
         x.deliver();
@@ -421,8 +403,8 @@ public final class HostsTest {
         CHECK.due("written", x.block(3, 0), 0x5A);
         CHECK.no("none waits", x.disk());
 
-        x = diskOnce(2).booted(2, 4, 4);
-        x.run(0, DISK_STEPS);
+        x = Programs.diskOnce(2).booted(2, 4, 4);
+        x.run(0, Programs.DISK_STEPS);
         pair(x, 1);
         x.crash(0);
         x.suspect(1);
@@ -443,8 +425,8 @@ public final class HostsTest {
     }
 
     private static void promise8DiskWithoutRoom() {
-        ReplayHosts x = diskOnce(2).booted(2, 4, 1);
-        x.run(0, DISK_STEPS);
+        ReplayHosts x = Programs.diskOnce(2).booted(2, 4, 1);
+        x.run(0, Programs.DISK_STEPS);
         pair(x, 1);
         x.tick();
         CHECK.no("no room", x.disk());
@@ -458,7 +440,7 @@ public final class HostsTest {
     }
 
     private static void promise9Deliver() {
-        ReplayHosts x = echo().booted(3, 4, 4);
+        ReplayHosts x = Programs.echo().booted(3, 4, 4);
         CHECK.no("no BACKUP", x.deliver());
         x.key(1);
         CHECK.no("no BACKUP, no entry", x.deliver());
@@ -474,7 +456,7 @@ public final class HostsTest {
         CHECK.due("it came", x.host(1, 7), 2);
         CHECK.no("no more", x.deliver());
 
-        x = paired(echo(), 3, 4);
+        x = paired(Programs.echo(), 3, 4);
         x.key(1);
         x.key(2);
         x.crash(0);
@@ -483,7 +465,7 @@ public final class HostsTest {
         CHECK.no("till that is SPARE", x.deliver());
         CHECK.due("what came came", x.host(1, 7), 1);
 
-        x = paired(echo(), 3, 4);
+        x = paired(Programs.echo(), 3, 4);
         x.key(1);
         x.crash(1);
         CHECK.no("the BACKUP is DEAD", x.deliver());
@@ -491,7 +473,7 @@ public final class HostsTest {
         x.repair(1);
         CHECK.no("nor a SPARE one", x.deliver());
 
-        x = paired(echo(), 3, 4);
+        x = paired(Programs.echo(), 3, 4);
         x.key(1);
         x.suspect(0);
         CHECK.no("the CHANNEL is gone", x.deliver());
@@ -506,7 +488,7 @@ public final class HostsTest {
     }
 
     private static void promise10Ack() {
-        ReplayHosts x = counting().booted(3, 4, 4);
+        ReplayHosts x = Programs.counting().booted(3, 4, 4);
         CHECK.no("none", x.ack());
         pair(x, 1);
         CHECK.no("none under way", x.ack());
@@ -522,7 +504,7 @@ public final class HostsTest {
         CHECK.yes("also when the BACKUP is gone", x.ack());
         CHECK.outside("in order", x, 1, 2);
 
-        x = paired(counting(), 3, 4);
+        x = paired(Programs.counting(), 3, 4);
         x.tick();
         x.run(0, 5);
         x.deliver();
@@ -533,13 +515,13 @@ public final class HostsTest {
         x.crash(0);
         CHECK.no("no host is LIVE with a BACKUP", x.ack());
 
-        x = paired(counting(), 3, 4);
+        x = paired(Programs.counting(), 3, 4);
         x.run(0, 5);
         x.deliver();
         x.suspect(0);
         CHECK.no("what was under way is gone", x.ack());
         CHECK.outside("once", x, 1);
-        x = paired(counting(), 3, 4);
+        x = paired(Programs.counting(), 3, 4);
         x.run(0, 5);
         x.deliver();
         x.suspect(1);
@@ -548,7 +530,7 @@ public final class HostsTest {
     }
 
     private static void promise11SuspectOfABackup() {
-        ReplayHosts x = counting().booted(3, 4, 4);
+        ReplayHosts x = Programs.counting().booted(3, 4, 4);
         CHECK.no("LIVE without a BACKUP", x.suspect(0));
         CHECK.no("SPARE", x.suspect(1));
         CHECK.no("no such host", x.suspect(3));
@@ -582,7 +564,7 @@ public final class HostsTest {
     }
 
     private static void promise11SuspectOfALiveOne() {
-        ReplayHosts x = paired(counting(), 4, 4);
+        ReplayHosts x = paired(Programs.counting(), 4, 4);
         x.run(0, 8);
         x.deliver();
         CHECK.yes("suspect", x.suspect(0));
@@ -609,7 +591,7 @@ public final class HostsTest {
     }
 
     private static void promise11FormerLive() {
-        ReplayHosts x = paired(counting(), 3, 2);
+        ReplayHosts x = paired(Programs.counting(), 3, 2);
         x.run(0, 8);
         CHECK.yes("suspect", x.suspect(1));
         state("LIVE", x, 1, LIVE);
@@ -640,8 +622,8 @@ public final class HostsTest {
         state("the MARK isn't less", x, 0, HALTED);
 
         // A DISK comes to the former one, while it has room.
-        x = diskOnce(2).booted(2, 4, 1);
-        x.run(0, DISK_STEPS);
+        x = Programs.diskOnce(2).booted(2, 4, 1);
+        x.run(0, Programs.DISK_STEPS);
         pair(x, 1);
         x.suspect(1);
         CHECK.yes("the former one's", x.disk());
@@ -654,7 +636,7 @@ public final class HostsTest {
 
     private static void promise11OperationOnceMore() {
         // Left, and the BACKUP knows: put out once more.
-        ReplayHosts x = paired(diskOnce(2), 2, 4);
+        ReplayHosts x = paired(Programs.diskOnce(2), 2, 4);
         x.run(0, 50);
         x.deliver();
         x.ack();
@@ -671,7 +653,7 @@ public final class HostsTest {
         CHECK.no("no more", x.disk());
         CHECK.due("with no number of its own", x.host(1, 4), 1);
         // Kept: it leaves, but not twice.
-        x = paired(diskOnce(2), 2, 4);
+        x = paired(Programs.diskOnce(2), 2, 4);
         x.run(0, 50);
         x.deliver();
         x.run(1, 100);
@@ -681,7 +663,7 @@ public final class HostsTest {
         CHECK.yes("what was kept", x.disk());
         CHECK.no("and no more", x.disk());
         // IDLE: nothing.
-        x = paired(echo(), 2, 4);
+        x = paired(Programs.echo(), 2, 4);
         x.suspect(1);
         CHECK.no("nothing", x.disk());
     }
@@ -716,7 +698,7 @@ public final class HostsTest {
     }
 
     private static void promise13Transfer() {
-        ReplayHosts x = echo().booted(2, 5, 3);
+        ReplayHosts x = Programs.echo().booted(2, 5, 3);
         CHECK.due("none is RECEIVING", x.transfer(), -1);
         x.run(0, 7);
         x.key(9);
@@ -867,7 +849,7 @@ public final class HostsTest {
         CHECK.yes("RECEIVING", x.crash(1));
         state("crash", x, 1, DEAD);
         state("the LIVE one", x, 0, LIVE);
-        x = paired(counting(), 3, 4);
+        x = paired(Programs.counting(), 3, 4);
         x.run(0, 5);
         CHECK.yes("LIVE with a BACKUP", x.crash(0));
         CHECK.outside("what was kept is gone", x);
@@ -877,7 +859,7 @@ public final class HostsTest {
     }
 
     private static void promise15Repair() {
-        ReplayHosts x = paired(counting(), 3, 4);
+        ReplayHosts x = paired(Programs.counting(), 3, 4);
         CHECK.no("no such host", x.repair(3));
         CHECK.no("no such host", x.repair(-1));
         CHECK.no("LIVE", x.repair(0));
@@ -903,7 +885,7 @@ public final class HostsTest {
         state("TAKING or LIVE", x, 1, TAKING);
         CHECK.no("TAKING", x.repair(1));
         // The repair of a host of an earlier pair touches no other pair's CHANNEL.
-        x = paired(counting(), 3, 4);
+        x = paired(Programs.counting(), 3, 4);
         x.crash(0);
         x.suspect(1);
         pair(x, 2);
@@ -913,7 +895,7 @@ public final class HostsTest {
     }
 
     private static void promise16Host() {
-        ReplayHosts x = paired(echo(), 4, 4);
+        ReplayHosts x = paired(Programs.echo(), 4, 4);
         for (int what : new int[] {-1, 15, 31, 72, Integer.MIN_VALUE, Integer.MAX_VALUE}) {
             for (int h = 0; h < 4; h++) {
                 CHECK.due("what " + what, x.host(h, what), -2);
@@ -982,7 +964,7 @@ public final class HostsTest {
     }
 
     private static void promise18Block() {
-        ReplayHosts x = diskOnce(2).booted(2, 4, 4);
+        ReplayHosts x = Programs.diskOnce(2).booted(2, 4, 4);
         x.run(0, 50);
         x.disk();
         CHECK.due("byte 0", x.block(3, 0), 0x5A);
@@ -1004,7 +986,7 @@ public final class HostsTest {
     }
 
     private static void promise19Out() {
-        ReplayHosts x = counting().booted(2, 4, 4);
+        ReplayHosts x = Programs.counting().booted(2, 4, 4);
         CHECK.due("none", x.out(0), -1);
         for (int i = 0; i < 7; i++) {
             x.run(0, 2000);
@@ -1022,7 +1004,7 @@ public final class HostsTest {
 
     /** Outputs are kept in places that are used again: many rounds of 32, the most that may be kept. */
     private static void manyOutputs() {
-        ReplayHosts x = paired(counting(), 2, 32);
+        ReplayHosts x = paired(Programs.counting(), 2, 32);
         int left = 0;
         for (int round = 0; round < 4; round++) {
             x.run(0, 2000);
@@ -1044,7 +1026,7 @@ public final class HostsTest {
         }
         CHECK.due("32 left at once", x.out(156), -1);
 
-        x = paired(counting(), 2, 32);
+        x = paired(Programs.counting(), 2, 32);
         x.run(0, 2000);
         x.suspect(1);
         CHECK.due("a room's outputs more", x.run(0, 2000), 96);
@@ -1068,7 +1050,7 @@ public final class HostsTest {
 
     /** More entries may have come to a BACKUP than there is room for unacknowledged ones. */
     private static void manyEntries() {
-        ReplayHosts x = paired(echo(), 2, 3);
+        ReplayHosts x = paired(Programs.echo(), 2, 3);
         for (int i = 0; i < 150; i++) {
             CHECK.yes("tick", x.tick());
             CHECK.yes("deliver", x.deliver());
