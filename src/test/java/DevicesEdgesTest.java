@@ -108,6 +108,7 @@ public final class DevicesEdgesTest extends GuestCheck {
                 CHECK.due("COMPARE", x.host(0, 10), unsigned(compare));
             }
         }
+        clockIsRead();
         // It is so as it is: a COMPARE that is moved on makes it 0 again.
         ReplayHosts x = new Asm().devices().addi(2, 0, 1).sw(2, 1, Asm.COMPARE).csr(2, 3, Asm.PENDING, 0).sw(1, 1, Asm.COMPARE)
             .csr(2, 4, Asm.PENDING, 0).booted(2, 4, 4);
@@ -115,6 +116,20 @@ public final class DevicesEdgesTest extends GuestCheck {
         x.run(0, 6);
         register("PENDING", x, 3, 0x80);
         register("PENDING no more", x, 4, 0);
+    }
+
+    private static void clockIsRead() {
+        ReplayHosts x = new Asm().devices().lw(2, 1, Asm.CLOCK).jal(0, -4).booted(2, 4, 4);
+        x.run(0, 1);
+        for (int ticks = 0; ticks < 300; ticks += 100) {
+            x.run(0, 2);
+            register("CLOCK", x, 2, ticks);
+            for (int i = 0; i < 100; i++) {
+                CHECK.yes("tick", x.tick());
+            }
+        }
+        x.run(0, 2);
+        register("CLOCK", x, 2, 300);
     }
 
     /** "bit 11: a key or a packet waits, or the DISK is DONE": each alone, and none of them. */
@@ -455,6 +470,8 @@ public final class DevicesEdgesTest extends GuestCheck {
         x.run(0, 3);
         CHECK.due("the last", x.memory(0, 0x200), read);
         CHECK.due("none: the refused ones didn't come", x.host(0, 13), 0);
+        x.run(0, 3);
+        register("none, in a place that was used", x, 3, 0);
     }
 
     /** Promise 6: "n bytes, 1 .. 32: those of a, b, c, d, the lowest first". */

@@ -10,6 +10,7 @@ public final class GuestEdgesTest extends GuestCheck {
         comparisons();
         shifts();
         registerZero();
+        nothing();
         upperBits();
         addressesGoRound();
         offsetsOfLoadsAndStores();
@@ -111,6 +112,13 @@ public final class GuestEdgesTest extends GuestCheck {
         register("x0 + 3", x, 4, 3);
         CHECK.due("SCRATCH", x.host(0, 67), 7);
         CHECK.due("no TRAP", x.host(0, 68), 0);
+    }
+
+    /** "15: nothing", but that the PLACE becomes 4 more: whatever else is in the word. */
+    private static void nothing() {
+        for (int rest : new int[] {0, 1, 0x20, 0x1000, 0x1FFFFFF}) {
+            gives("15", MIN, MAX, 15 | rest << 7, 0);
+        }
     }
 
     /** "55: d = the upper 20 bits of w. 23: d = PLACE + these." */
@@ -464,7 +472,10 @@ public final class GuestEdgesTest extends GuestCheck {
             CHECK.due("a TRAP with STATUS " + c[0], x.host(0, 64), c[1]);
             CHECK.due("to VECTOR", x.host(0, 2), 0x44);
             CHECK.due("BACK", x.host(0, 68), 20);
+            CHECK.due("cause", x.host(0, 69), 11);
+            CHECK.due("value", x.host(0, 70), 0);
             x = ran(status(c[0]).word(1048691));
+            CHECK.due("a break's cause", x.host(0, 69), 3);
             CHECK.due("a break with STATUS " + c[0], x.host(0, 64), c[1]);
             CHECK.due("its value", x.host(0, 70), 20);
         }

@@ -24,7 +24,7 @@ public final class HostsEdgesTest {
         notStalledByOtherStores();
         notStalledByAnInterrupt();
         notStalledWithoutABackup();
-        notStalledBeyondMemory();
+        stalledAtTheEndOfMemory();
         leavesInOrder();
         backupTakesAheadOfSteps();
         backupTakesAllOfOneCount();
@@ -41,6 +41,9 @@ public final class HostsEdgesTest {
         acksOfADeadBackup();
         suspectMarks();
         suspectOfBoth();
+        nothingIsUnacknowledgedInTheNextPair();
+        nothingCameToARepairedBackup();
+        repairedLiveReplaysAsABackup();
         CHECK.end();
     }
 
@@ -283,8 +286,12 @@ public final class HostsEdgesTest {
         CHECK.due("all left", x.host(0, 5), 0);
     }
 
-    /** A place that isn't in MEMORY has no word to look at. */
-    private static void notStalledBeyondMemory() {
+    /** MEMORY's last word is looked at; a place that isn't in MEMORY has none. */
+    private static void stalledAtTheEndOfMemory() {
+        ReplayHosts last = Programs.paired(new Asm().devices().jal(0, 0x3F8).at(0x3FC).sw(0, 1, Asm.CONSOLE), 2, 1);
+        last.tick();
+        CHECK.due("STALLED", last.run(0, 3), 2);
+        CHECK.due("at the last word", last.host(0, 2), 0x3FC);
         ReplayHosts x = Programs.paired(new Asm().devices().jal(0, 0x3FC), 2, 1);
         x.tick();
         CHECK.due("FETCH", x.run(0, 3), 3);
@@ -626,6 +633,77 @@ public final class HostsEdgesTest {
                 x.transfer();
             }
             state("transfer", x, second, BACKUP);
+        }
+    }
+
+    /** "CHANNEL and what is under way are empty": and so is the ROOM. */
+    private static void nothingIsUnacknowledgedInTheNextPair() {
+        for (int delivered = 0; delivered <= 2; delivered++) {
+            ReplayHosts x = Programs.paired(Programs.counting(), 3, 2);
+            x.tick();
+            x.tick();
+            for (int i = 0; i < delivered; i++) {
+                x.deliver();
+            }
+            x.suspect(0);
+            Programs.pair(x, 2);
+            CHECK.due("none unacknowledged", x.host(0, 6), 0);
+            CHECK.no("the CHANNEL is empty", x.deliver());
+            CHECK.no("none is under way", x.ack());
+            CHECK.yes("room", x.tick());
+            CHECK.yes("room", x.tick());
+            CHECK.no("no more", x.tick());
+            CHECK.due("what came to the one that was left is there yet", x.host(1, 7), delivered);
+        }
+    }
+
+    /** What came to a host that was DEAD or HALTED since is gone, and so is what it kept. */
+    private static void nothingCameToARepairedBackup() {
+        for (int halted = 0; halted < 2; halted++) {
+            ReplayHosts x = Programs.paired(Programs.counting(), 2, 8);
+            x.run(0, 7);
+            deliverAll(x);
+            x.run(1, 4);
+            CHECK.due("one is left", x.host(1, 7), 1);
+            CHECK.due("one is kept", x.host(1, 5), 1);
+            x.suspect(0);
+            CHECK.yes("DEAD or HALTED", halted == 1 ? x.suspect(1) : x.crash(1));
+            x.repair(1);
+            Programs.pair(x, 1);
+            CHECK.due("none came", x.host(1, 7), 0);
+            CHECK.due("none is kept", x.host(1, 5), 0);
+            CHECK.due("it runs none", x.run(1, 100), 0);
+            x.suspect(1);
+            state("no entry left", x, 1, LIVE);
+            CHECK.outside("two left, once", x, 1, 2);
+        }
+    }
+
+    /** One that was STALLED as the LIVE one isn't as a BACKUP, when it was DEAD or HALTED since. */
+    private static void repairedLiveReplaysAsABackup() {
+        for (int halted = 0; halted < 2; halted++) {
+            ReplayHosts x = Programs.paired(Programs.counting(), 2, 2);
+            x.run(0, 100);
+            if (halted == 1) {
+                x.suspect(1);
+                CHECK.due("STALLED once more", x.run(0, 100), 6);
+                x.suspect(0);
+            } else {
+                x.crash(0);
+                x.suspect(1);
+            }
+            x.repair(0);
+            Programs.pair(x, 0);
+            CHECK.due("no output yet", x.host(0, 4), 0);
+            CHECK.due("two outputs", x.run(1, 100), 8);
+            deliverAll(x);
+            CHECK.due("it replays both", x.run(0, 100), 6);
+            CHECK.due("kept", x.host(0, 5), 2);
+            CHECK.due("6 of a BACKUP", x.host(0, 6), 0);
+            x.suspect(0);
+            CHECK.outside("both leave", x, 1, 2);
+            CHECK.yes("it hears", x.key(1));
+            CHECK.due("it hears", x.host(0, 12), 1);
         }
     }
 }

@@ -288,6 +288,9 @@ public final class PromiseEdgesTest {
         asm.jalr(0, 4, 0);
         ReplayHosts x = asm.booted(2, 4, 4);
         x.run(0, asm.words().length);
+        // What 13 tells isn't what 32 does.
+        x.packet(1, 1, 0, 0, 0);
+        CHECK.due("packets", x.host(0, 13), 1);
         CHECK.due("PLACE", x.host(0, 2), 0xFFFFFFFCL);
         CHECK.due("COMPARE", x.host(0, 10), 0xFFFFFFFFL);
         CHECK.due("register 0", x.host(0, 32), 0);
@@ -298,7 +301,7 @@ public final class PromiseEdgesTest {
         for (int i = 0; i < control.length; i++) {
             CHECK.due("control register " + control[i], x.host(0, 64 + i), has[i]);
         }
-        CHECK.due("PENDING", x.host(0, 71), 0);
+        CHECK.due("PENDING", x.host(0, 71), 0x800);
     }
 
     /** "Those from 1 on are 0 of one that is SPARE, RECEIVING (but 8), HALTED or DEAD; 6, 7, 8 and 14, too, of one that is none of those told with them." */
