@@ -1,7 +1,7 @@
 /** Counts answers that are not as due, and ends a test. */
 final class Check {
     private int wrong = 0;
-    private int asked = 0;
+    private long asked = 0;
 
     void due(String what, long got, long want) {
         asked++;
